@@ -1369,27 +1369,20 @@ public final class RibbonPole {
             letters[4] = h;
             letters[5] = b;
             height = 0;
+            boolean passing = false;
             for (int i = 0; i < size; i++) {
                 int code = codes[i];
-                if (code == ANSWER) {
+                if (passing) {
+                    passing = code != ANSWER;
+                } else if (code == ANSWER) {
                     return pop();
-                }
-                if (code != TEST) {
+                } else if (code == TEST) {
+                    passing = pop() == 0;
+                } else {
                     run(code);
-                } else if (pop() == 0) {
-                    i = answerBehind(i);
                 }
             }
             return 0;
-        }
-
-        private int answerBehind(int from) {
-            for (int i = from; i < size; i++) {
-                if (codes[i] == ANSWER) {
-                    return i;
-                }
-            }
-            return size;
         }
 
         private void push(int value) {

@@ -21,6 +21,10 @@ final class Check {
         due(call, want ? 1 : 0, got ? 1 : 0);
     }
 
+    static int rights() {
+        return right;
+    }
+
     static boolean anyWrong() {
         return wrong != 0;
     }
