@@ -1895,9 +1895,9 @@ public final class RibbonPole {
     }
 
     /**
-     * The way to a told order. A way takes each dancer so many places on (below 0: back), all together 0, and no way
-     * with these numbers has fewer crossings than two walkers each must have who would meet; the fewest of all ways go
-     * less than once round with everybody, so each dancer has two numbers to choose from.
+     * The fewest crossings to a told order, without a search: each dancer goes so many places on or back round the ring,
+     * all together 0, and two of them cross as often as these numbers make them pass one another, no oftener. In the best
+     * way nobody goes a whole round, so each has two numbers to choose from: on by so many, or back by the rest of a round.
      */
     private static final class Way {
         private int places;
