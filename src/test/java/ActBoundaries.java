@@ -152,6 +152,7 @@ final class ActBoundaries {
         due("acts", 3, pole.count(9));
         due("one more of w alone", 1, pole.dance(0));
         due("none of it", 0, pole.dance(1));
+        due("none of it at the last place", 0, pole.dance(Check.text(pole, 2, "o2")));
         due("no beat came", 4, pole.count(6));
         due("no act came", 4, pole.count(9));
         status(pole, "0 0 0 0 0");

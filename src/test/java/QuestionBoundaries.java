@@ -52,6 +52,10 @@ final class QuestionBoundaries {
         pole.cross(3, true);
         due("the last over the first", 1, pole.bound(3, 0));
         due("the first under the last", -1, pole.bound(0, 3));
+        pole.cross(0, true);
+        due("3 over 1 is not of both", 1, pole.bound(3, 0));
+        due("3 over 1", 1, pole.bound(3, 1));
+        due("0 under 3 is not of both", 0, pole.bound(0, 1));
         due("alike", HIDDEN, pole.bound(3, 3));
         due("(0, 4)", HIDDEN, pole.bound(0, 4));
         due("(4, 0)", HIDDEN, pole.bound(4, 0));
@@ -67,12 +71,15 @@ final class QuestionBoundaries {
         says(24, "how many CROSSINGS would have to be UNDONE at the least so that none of his is in the PLAIT");
         RibbonPole pole = Poles.ring(7, "");
         due("of an empty plait", 0, pole.letOut(0));
-        for (int spot : new int[] {0, 6, 5, 4, 3}) {
+        for (int spot : new int[] {6, 0, 1, 2}) {
             pole.cross(spot, true);
         }
-        due("his own is the first of all", 5, pole.letOut(1));
+        // 6 goes on at each crossing; the others have one each, all behind it touch one another.
+        due("his own is the first of all", 4, pole.letOut(0));
+        due("his own is the second", 3, pole.letOut(1));
         due("his own is the last of all", 1, pole.letOut(3));
-        due("he has none", 0, pole.letOut(2));
+        due("all are his own", 4, pole.letOut(6));
+        due("he has none", 0, pole.letOut(4));
         due("half of a full plait", 20, Poles.full().letOut(0));
         RibbonPole round = Poles.ring(4, "");
         round.cross(0, true);
@@ -211,15 +218,16 @@ final class QuestionBoundaries {
         due("at the ring's end", 2, pole.nearest(210, 1));
         due("of all three", 0, pole.nearest(120, 1));
         due("of 2 and 4", 2, seven.nearest(132546, 1));
+        due("ahead of the ring's end", 5, seven.nearest(123465, 1));
         due("of 4 and the ring's end", 4, seven.nearest(6123540, 1));
         RibbonPole now = Poles.ring(4, "");
         now.cross(1, true);
         due("as they stand now", NONE, now.nearest(213, 1));
         due("from as it is now", 1, now.nearest(123, 1));
         says(29, "NEAREST: how many (0), the PLACE (1). NONE: no GREEN, no such order, no such what.");
-        due("what 2", NONE, pole.nearest(12, 2));
+        due("what 2", NONE, pole.nearest(210, 2));
         for (int never : NEVER) {
-            due("what " + never, NONE, pole.nearest(12, never));
+            due("what " + never, NONE, pole.nearest(210, never));
             due("order " + never, NONE, pole.nearest(never, 0));
             due("order " + never, NONE, seven.nearest(never, 1));
         }
@@ -237,6 +245,11 @@ final class QuestionBoundaries {
         due("never ends", 99, pole.times(0));
         due("nothing", 99, pole.times(1));
         due("a place that is not there", 99, pole.times(2));
+        RibbonPole ends = Poles.figures(Poles.green("st2;dl2;dl9;dl8"), "o2", "o3", "u3", "o5", "u4");
+        due("the last place", 1, ends.times(0));
+        for (int i = 1; i < 5; i++) {
+            due("places behind the last", 99, ends.times(i));
+        }
         due("up to a full plait", 40, pole.times(3));
         due("in whole", 13, pole.times(4));
         due("not once", 0, pole.times(5));
@@ -312,8 +325,13 @@ final class QuestionBoundaries {
         due("behind two", 15, pole.fits());
         pole.seen(0, 0, 1, false);
         due("not at 0 behind one", 10, pole.fits());
+        due("one with an odd number", 3, pole.seen(1, 1, 2, true));
+        due("he fits", 10, pole.fits());
         pole.cross(1, true);
         due("as told, not as now", 10, pole.fits());
+        RibbonPole odd = Poles.figures(Poles.ring(3, ""), "w", "o0", "o1", "o2");
+        odd.seen(1, 1, 1, true);
+        due("1 stays by two of them", 9, odd.fits());
         pole.seen(0, 2, 1, true);
         due("the last place", 8, pole.fits());
         pole.seen(0, 2, 1, false);
@@ -329,6 +347,7 @@ final class QuestionBoundaries {
         RibbonPole alike = Poles.figures(Poles.ring(3, ""), "w", "o0;u0");
         due("they never part: the least", 1, alike.ask(0));
         due("one alone", 1, Poles.figures(Poles.ring(3, ""), "w").ask(2));
+        sixAsked();
         RibbonPole three = Poles.figures(Poles.ring(4, ""), "o0;o1", "o0;o1;w", "o0;o1;o2;o2;o3;o3", "o0;o1;u0");
         due("three of four agree at once: the least", 1, three.ask(3));
         RibbonPole first = Poles.figures(Poles.ring(3, ""), "w", "o0", "o1");
@@ -343,6 +362,20 @@ final class QuestionBoundaries {
         due("nothing fits", NONE, first.ask(0));
         due("without figures", NONE, Poles.ring(3, "").ask(0));
         due("without a green", NONE, Poles.figures(new RibbonPole(), "w").ask(0));
+    }
+
+    /** Six figures at once, at the highest places. */
+    private static void sixAsked() {
+        String five = "o5;o4";
+        RibbonPole pole = Poles.figures(Poles.ring(7, ""), "w", five, five + ";o6;u6", five + ";w", "o5", "o5;o0");
+        // 4 stays by three and goes to 5 by the others; behind two he stands at 4 4 4, at 6 by the three.
+        due("three and three: the least", 1, pole.ask(4));
+        // 5 stays by one, goes to 6 by five; behind two he stands at 5 5 5 and 4 4 4.
+        due("five at the last place, then three and three", 2, pole.ask(5));
+        // 6 stays by one, goes to 4 by three, to 5 by two; behind two he stands at 6 6 6 and 5 5 5.
+        due("three at the most either way: the least", 1, pole.ask(6));
+        RibbonPole six = Poles.figures(Poles.ring(7, ""), "w", "o0", "o1", "o2", "o3", "o4");
+        due("all six at the last place", 1, six.ask(6));
     }
 
     private static void stripe() {
@@ -460,7 +493,7 @@ final class QuestionBoundaries {
 
     private static void oddsOfBounds() {
         says(37, "ODDS of a FIGURE with 8 STEPS at most UNROLLED, a chance (0 .. 100) and v (0 .. 60)");
-        RibbonPole pole = Poles.figures(Poles.ring(3, ""), "o0;u0", "8(o0)", "7(o9);o0");
+        RibbonPole pole = Poles.figures(Poles.ring(3, ""), "o0;u0", "8(o0)", "7(o9);o0", "7(o3);o0");
         due("chance 0, v 0", ALL_PARTS, pole.odds(0, 0, 0));
         due("chance 100, v 0", ALL_PARTS, pole.odds(0, 100, 0));
         due("chance 1", 980200000, pole.odds(0, 1, 0));
@@ -472,7 +505,12 @@ final class QuestionBoundaries {
         says(37, "each of its CROSSINGS (at a PLACE that is there) by chance is danced the other way");
         pole.cross(0, true);
         due("places that are not there have no chance", 10000000, pole.odds(2, 1, 0));
+        due("the one behind the last is not there, either", 10000000, pole.odds(3, 1, 0));
         due("behind it", ALL_PARTS, pole.odds(2, 1, 2));
+        RibbonPole ends = Poles.figures(Poles.ring(3, ""), "o2", "o3;u3;o4;u5", "o2;4(o3);u2");
+        due("the last place", 0, ends.odds(0, 50, 0));
+        due("places behind the last", ALL_PARTS, ends.odds(1, 50, 0));
+        due("places behind the last between", 500000000, ends.odds(2, 50, 0));
         due("one is never left", 10000000, pole.odds(2, 1, 1));
     }
 

@@ -131,7 +131,11 @@ final class TextBoundaries {
         due("feed of two at 239", NONE, pole.feed(0x20000000, 0, 0, 0, 0x20));
         due("nothing came", 239, pole.count(4));
         due("feed of one at 239", 240, pole.feed(0x80, 0, 0, 0, 0));
-        due("feed of one at 240", NONE, pole.feed(0, 0, 1, 0, 0));
+        for (int i = 0; i < 5; i++) {
+            int one = 0x20 << 8 * (i % 4);
+            due("feed of one at 240", NONE, pole.feed(i == 0 ? one : 0, i == 1 ? one : 0, i == 2 ? one : 0, i == 3 ? one : 0,
+                i == 4 ? one : 0));
+        }
         due("feed of none at 240", 240, pole.feed(0, 0, 0, 0, 0));
         due("feed of twenty at 240", NONE, pole.feed(-1, -1, -1, -1, -1));
         due("nothing came", 240, pole.count(4));
@@ -148,6 +152,9 @@ final class TextBoundaries {
         due("five", 5, pole.count(4));
         due("feed goes on behind the fifth", 6, pole.feed(0x78, 0, 0, 0, 0));
         due("fault(0)", 5, pole.fault(GREEN));
+        Check.tape(pole, "d;d  ");
+        due("end(3)", true, pole.end(3));
+        due("the blanks cut off are no more of it", 3, pole.fault(GREEN));
         due("end(0)", true, pole.end(0));
         due("none", 0, pole.count(4));
         due("fault(0) of an empty tape", 0, pole.fault(GREEN));
@@ -296,12 +303,26 @@ final class TextBoundaries {
         right(LAW, "y:t+s+u+n+h+b");
         fault(LAW, "y:c", 2);
         fault(LAW, "y:[]", 3);
+        says(4, "or SUM, one of = < >, SUM");
+        fault(LAW, "y:1?1", 3);
+        fault(LAW, "y:1=1|1?1", 7);
+        fault(LAW, "y:1=1&1?1", 7);
+        fault(LAW, "y:1=1=1?1", 5);
+        fault(LAW, "y:(1=1)=1?1", 7);
+        worth("y:3=3?4;y:5", 4);
+        worth("y:3=4?4;y:5", 5);
+        worth("y:2<3?4;y:5", 4);
+        worth("y:3<3?4;y:5", 5);
+        worth("y:4>3?4;y:5", 4);
+        worth("y:3>3?4;y:5", 5);
         says(4, "At most six of ( [ ! within one another.");
         right(LAW, "y:[[[[[[1]]]]]]");
         right(LAW, "y:!!!!!!1=1?1");
         right(LAW, "y:((((((1=1))))))?1");
         right(LAW, "y:!(!(![1]=1))?1");
         right(LAW, "y:!!!!!!1=1&!!!!!!2=2|((((((1=1))))))?[[[[[[1]]]]]]+[[[[[[2]]]]]]");
+        right(LAW, "y:[[[[[[1]]]]]]=[[[[[[1]]]]]]&[[[[[[1]]]]]]<[[[[[[1]]]]]]|[[[[[[1]]]]]]>2?1");
+        right(LAW, "y:1=1&!!!!!!1=1|!!!!!!1=1?1;y:[[[[[[1]]]]]]*[[[[[[1]]]]]]");
     }
 
     private static void worthOfLaws() {
@@ -412,6 +433,9 @@ final class TextBoundaries {
             endsEarly(FIGURE, text);
         }
         fault(FIGURE, "7(7(w));)", 8);
+        for (int sort = 0; sort < 3; sort++) {
+            endsEarly(sort, " ".repeat(240));
+        }
         says(4, "a number out of bounds is wrong at its last digit");
         fault(GREEN, "dc8;d;d", 2);
         fault(GREEN, "dc08;d;d", 3);
@@ -434,6 +458,9 @@ final class TextBoundaries {
         fault(GREEN, "dc1 s1 c1", 7);
         fault(GREEN, "st1 t", 4);
         says(4, "a second s, an eighth d");
+        RibbonPole pole = new RibbonPole();
+        due("a text with s", NONE, Check.fault(pole, GREEN, "s;d;d;d;d;d;d;d"));
+        due("the next one has its own s and d", NONE, Check.fault(pole, GREEN, "s;d;d;d;d;d;d;d"));
         fault(GREEN, "d;s;d;d;s", 8);
         fault(GREEN, "d;s;d;d; s", 9);
         fault(GREEN, "d;d;d;d;d;d;d;d", 14);
