@@ -348,6 +348,7 @@ final class QuestionBoundaries {
         due("they never part: the least", 1, alike.ask(0));
         due("one alone", 1, Poles.figures(Poles.ring(3, ""), "w").ask(2));
         sixAsked();
+        askedAtBounds();
         RibbonPole three = Poles.figures(Poles.ring(4, ""), "o0;o1", "o0;o1;w", "o0;o1;o2;o2;o3;o3", "o0;o1;u0");
         due("three of four agree at once: the least", 1, three.ask(3));
         RibbonPole first = Poles.figures(Poles.ring(3, ""), "w", "o0", "o1");
@@ -376,6 +377,21 @@ final class QuestionBoundaries {
         due("three at the most either way: the least", 1, pole.ask(6));
         RibbonPole six = Poles.figures(Poles.ring(7, ""), "w", "o0", "o1", "o2", "o3", "o4");
         due("all six at the last place", 1, six.ask(6));
+    }
+
+    private static void askedAtBounds() {
+        // By these 0 goes round through 0 5 6 1, 0 6 1, 0 2 6 1 5 3, 0 3 2 1, 0 6 4 3: all part behind nine alone.
+        RibbonPole nine = Poles.figures(Poles.ring(7, ""), "o0;o1;o2;o3;o5;o4;o3;o2;o1", "o0;o1;o2;o3;o4;o5;o4;o3;o2;o1",
+            "o2;o3;o4;o5;o1;o2;o3;o4;o0;o2;o3;o2;o1", "o0;o1;o2", "o0;o1;o2;o3;o4;o5;o1;o4;o0");
+        due("behind nine", 9, nine.ask(0));
+        // 0 2 5, 0 1 4, 0 2 5 4, 0, 0 5 3 6, 0 4 1: two agree behind one, none behind ten.
+        RibbonPole ten = Poles.figures(Poles.ring(7, ""), "o0;o2;o3;o4;o3;o2;o1;o0", "o1;o2;o3;o2;o1;o0",
+            "o0;o2;o3;o4;o2;o1;o0", "w", "o0;o1;o3;o4;o5;o2;o3;o4;o2;o3;o2;o1;o0", "o0;o1;o2;o3;o2;o1");
+        due("not behind ten", 1, ten.ask(0));
+        // 0, 0 4 2 3 1 6 5, 0 1 2 4 6, 0 4 6 2, 0 4 6, 0: behind two they stand at 0 2 2 6 6 0.
+        RibbonPole last = Poles.figures(Poles.ring(7, ""), "w", "o1;o2;o3;o4;o5;o0;o1;o2;o3;o0;o1;o2;o1;o0",
+            "o2;o4;o5;o4;o3;o2;o1;o0", "o0;o1;o2;o4;o5;o0;o4;o3;o2", "o0;o1;o2;o4;o5;o4;o3;o2;o1;o0", "w");
+        due("two of six at the last place", 2, last.ask(0));
     }
 
     private static void stripe() {
