@@ -1900,6 +1900,9 @@ public final class RibbonPole {
      * way nobody goes a whole round, so each has two numbers to choose from: on by so many, or back by the rest of a round.
      */
     private static final class Way {
+        /** Above the crossings of any way: nobody goes a whole round, so each two of seven cross twice at most. */
+        private static final int MORE_THAN_ANY_WAY = 1000;
+
         private int places;
         private final int[] who = new int[ROW];
         private final int[] goals = new int[ROW];
@@ -1933,7 +1936,7 @@ public final class RibbonPole {
                 together += shifts[place];
             }
             int goingBack = together / places;
-            int fewest = Integer.MAX_VALUE;
+            int fewest = MORE_THAN_ANY_WAY;
             for (int backs = 0; backs < 1 << places; backs++) {
                 if (Integer.bitCount(backs) == goingBack) {
                     fewest = Math.min(fewest, crossingsWith(backs));

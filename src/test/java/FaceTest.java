@@ -24,6 +24,11 @@ public final class FaceTest {
         "int game(int,int,int,int)", "int rests(int,int)", "int odds(int,int,int)", "int shares(int,int)",
         "int most(int)", "int image()", "int back()", "int count(int)"};
 
+    /** What rule 4 leaves of the library's static members: functions alone, no constant of the library. */
+    private static final Pattern STATIC = Pattern.compile("\\b(Integer|Long|Math|Arrays|System|String|Character|List)\\.\\w+.?");
+    private static final Pattern LEFT = Pattern.compile("(Integer|Long|Math)\\.(compare|max|min|abs|bitCount|floorDiv|floorMod)\\("
+        + "|System\\.arraycopy\\(|Arrays\\.(copyOf|copyOfRange|fill)\\(");
+
     private FaceTest() {
     }
 
@@ -100,6 +105,7 @@ public final class FaceTest {
         for (int i = 0; i < lines.size(); i++) {
             String code = lines.get(i).replaceAll("^\\s*(//|/?\\*).*", "");
             Check.due("line " + (i + 1) + " holds what the language leaves out: " + code, false, banned.matcher(code).find());
+            library(i + 1, code);
             if (code.startsWith("import")) {
                 Check.due(code, true, code.equals("import java.util.NoSuchElementException;"));
             }
@@ -111,6 +117,14 @@ public final class FaceTest {
                 Check.due("sixty lines at most from line " + (opened + 1), true, i - opened <= 60);
                 indent = null;
             }
+        }
+    }
+
+    private static void library(int line, String code) {
+        Matcher used = STATIC.matcher(code);
+        while (used.find()) {
+            boolean left = LEFT.matcher(used.group()).matches();
+            Check.due("line " + line + " uses " + used.group() + " which rule 4 leaves", true, left);
         }
     }
 }
